@@ -345,7 +345,6 @@ public final class AggregateRows {
             terms.write(values.at(i), results);
         }
         if (results.openLength(group) > LONGEST_JOIN) {
-            results.dropText(group);
             results.setError(group, TEXT_TOO_LONG);
         } else {
             results.endText(group);
@@ -615,7 +614,7 @@ public final class AggregateRows {
     private static final class Results {
         /** Euclid's way takes fewer steps than this for any two longs. */
         private static final int MOST_STEPS = 100;
-        /** Each row gives at most one term and one separator, to one group alone. */
+        /** Room for all texts, also those given up: each row gives one term and one separator at the most. */
         private static final int MOST_CHARACTERS = MOST_ROWS * (LONGEST_TERM + 1);
 
         private final int[] firstKeys = new int[MOST_ROWS];
@@ -700,10 +699,6 @@ public final class AggregateRows {
         void endText(int group) {
             sorts[group] = A_TEXT;
             lengths[group] = openLength(group);
-        }
-
-        void dropText(int group) {
-            written = starts[group];
         }
 
         int count() {

@@ -99,6 +99,9 @@ public final class ResultsTest {
         AggregateRows y = three(Sample.SUM);
         Check.same("upper of an ERROR", 0L, y.value(1, 0));
         Check.same("lower of an ERROR", 1L, y.value(1, 1));
+        y.run(Sample.JOIN, false);
+        Check.same("upper gone with the next run", 0L, y.value(0, 0));
+        Check.same("lower gone with the next run", 1L, y.value(0, 1));
         AggregateRows below = Sample.of("-0.750", "0");
         below.run(Sample.MEAN, false);
         Check.same("upper below 0", -3L, below.value(0, 0));

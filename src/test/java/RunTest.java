@@ -64,12 +64,22 @@ public final class RunTest {
         Check.same("least of EQUAL ones", "1/1 #2", Sample.result(Sample.LEAST, false, "2", "1.0", "1", "1.00"));
         Check.same("greatest of EQUAL ones", "2/1 #2", Sample.result(Sample.GREATEST, false, "1", "2.0", "2"));
         Check.same("distinct least", "1/1 #2", Sample.result(Sample.LEAST, true, "2", "1.0", "1"));
+        textTermsInTwoGroups();
         Check.same("least without ERRORS", "3/1 #1", Sample.result(Sample.LEAST, false, "!", "3"));
         AggregateRows x = new AggregateRows();
         Sample.row(x, 1, "k", "1");
         Sample.row(x, 0, "k", "1.0");
         x.run(Sample.LEAST, false);
         Check.same("the first one by parts", "1/1 #2", Sample.tell(x, 0));
+    }
+
+    private static void textTermsInTwoGroups() {
+        AggregateRows x = new AggregateRows();
+        Sample.row(x, 0, "k", "uv");
+        Sample.row(x, 0, "l", "xyz");
+        x.run(Sample.LEAST, false);
+        Check.same("a text term", "'uv' #1", Sample.tell(x, 0));
+        Check.same("another one in another group", "'xyz' #3", Sample.tell(x, 1));
     }
 
     private static void first() {
@@ -242,6 +252,10 @@ public final class RunTest {
         Check.same("sixty groups", 60, x.run(Sample.GREATEST, true));
         for (int group = 0; group < 60; group++) {
             Check.same("group " + group, (59 - x.key(group)) + "/1 #" + (59 - x.key(group)), Sample.tell(x, group));
+        }
+        for (int kind = 0; kind < 8; kind++) {
+            Check.same("sixty groups of kind " + kind, 60, x.run(kind, false));
+            Check.same("a result of the last one", true, x.sort(59) < 2);
         }
         Check.index("no group 60", () -> x.key(60));
         x.by(2);
