@@ -5,14 +5,20 @@ final class Check {
     }
 
     private static int wrong = 0;
+    /** What the checks are about now, printed in front of each that is wrong. */
+    private static String about = "";
 
     private Check() {
+    }
+
+    static void about(String subject) {
+        about = subject;
     }
 
     static void same(String what, Object due, Object got) {
         if (!due.equals(got)) {
             wrong++;
-            System.out.println(what + ": answered " + got + ", due is " + due);
+            System.out.println(about + what + ": answered " + got + ", due is " + due);
         }
     }
 

@@ -1,6 +1,6 @@
 /** All promises: long runs of calls, ordinary and wrong ones, answered as the model answers them. */
 public final class ModelTest {
-    private static final int OBJECTS = 1500;
+    private static final int OBJECTS = 4000;
     private static final int CALLS = 512;
     private static final int[] EDGES = {Integer.MIN_VALUE, -1000001, -1000000, -2, -1, 0, 1, 2, 3, 4, 7, 8, 31, 32, 59,
         60, 79, 80, 126, 127, 1000000, 1000001, 1000000000, 1000000001, Integer.MAX_VALUE};
@@ -12,6 +12,7 @@ public final class ModelTest {
     private final boolean numbersAlone;
     private final boolean farNumbers;
     private long seed;
+    private int calls = 0;
 
     private ModelTest(int object) {
         seed = object * 7919L + 17;
@@ -23,8 +24,8 @@ public final class ModelTest {
     public static void main(String[] args) {
         for (int object = 0; object < OBJECTS; object++) {
             ModelTest test = new ModelTest(object);
-            for (int call = 0; call < CALLS; call++) {
-                test.call("object " + object + ", call " + call + ": ");
+            while (test.calls < CALLS) {
+                test.call("object " + object + ", call " + test.calls + ": ");
             }
         }
         Check.end();
@@ -45,8 +46,12 @@ public final class ModelTest {
         return next(25) == 0 ? edge() : next(Math.max(1, bound));
     }
 
+    /** What calls behind the 512th one answer is free. */
     private void compare(String what, Check.Call due, Check.Call got) {
-        Check.same(what, Check.answerOf(due), Check.answerOf(got));
+        if (calls < CALLS) {
+            calls++;
+            Check.same(what, Check.answerOf(due), Check.answerOf(got));
+        }
     }
 
     private void call(String at) {

@@ -106,14 +106,7 @@ public final class RunTest {
     }
 
     private static AggregateRows eights(int howMany, String... more) {
-        AggregateRows x = new AggregateRows();
-        for (int n = 0; n < howMany; n++) {
-            Sample.row(x, 0, "k", "abcdefgh");
-        }
-        for (String value : more) {
-            Sample.row(x, 0, "k", value);
-        }
-        return x;
+        return Sample.rowsOf(howMany, "abcdefgh", more);
     }
 
     private static void tooLongJoins() {
@@ -144,15 +137,21 @@ public final class RunTest {
         longestTextsInManyGroups();
     }
 
-    /** Every row gives its longest text and a separator, none of which may be lost. */
-    private static void longestTextsInManyGroups() {
+    private static AggregateRows longestTexts() {
         AggregateRows x = new AggregateRows();
         x.separator('|');
         for (int n = 0; n < 60; n++) {
             Sample.row(x, n % 3, String.valueOf(n / 8), "-1000.000");
         }
         x.run(Sample.JOIN, false);
+        return x;
+    }
+
+    /** Every row gives its longest text and a separator, none of which may be lost. */
+    private static void longestTextsInManyGroups() {
         for (int group = 0; group < 8; group++) {
+            // An object for each, as all the characters together are more than 512 calls.
+            AggregateRows x = longestTexts();
             int values = x.rows(group);
             String due = "'-1000.000" + "|-1000.000".repeat(values - 1) + "'";
             Check.same("long texts of group " + group, due, Sample.tell(x, group));
@@ -243,16 +242,23 @@ public final class RunTest {
         Check.same("is no run", 0, none.told(2));
     }
 
-    private static void howManyGroups() {
+    private static AggregateRows sixtyGroups() {
         AggregateRows x = new AggregateRows();
         Sample.fillTerms(x);
         for (int n = 0; n < 60; n++) {
-            Sample.row(x, 2 - n % 3, String.valueOf(n), String.valueOf(59 - n));
+            x.row(2 - n % 3, n, 59 - n);
         }
-        Check.same("sixty groups", 60, x.run(Sample.GREATEST, true));
+        return x;
+    }
+
+    private static void howManyGroups() {
         for (int group = 0; group < 60; group++) {
-            Check.same("group " + group, (59 - x.key(group)) + "/1 #" + (59 - x.key(group)), Sample.tell(x, group));
+            AggregateRows x = sixtyGroups();
+            Check.same("sixty groups", 60, x.run(Sample.GREATEST, true));
+            int due = 59 - x.key(group);
+            Check.same("group " + group, due + "/1 #" + due, Sample.tell(x, group));
         }
+        AggregateRows x = sixtyGroups();
         for (int kind = 0; kind < 8; kind++) {
             Check.same("sixty groups of kind " + kind, 60, x.run(kind, false));
             Check.same("a result of the last one", true, x.sort(59) < 2);

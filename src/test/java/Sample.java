@@ -53,6 +53,18 @@ final class Sample {
         return x;
     }
 
+    /** An object with rows of one value, so many of them, then one of each more, all with the same key. */
+    static AggregateRows rowsOf(int howMany, String value, String... more) {
+        AggregateRows x = new AggregateRows();
+        for (int n = 0; n < howMany; n++) {
+            row(x, 0, "key", value);
+        }
+        for (String one : more) {
+            row(x, 0, "key", one);
+        }
+        return x;
+    }
+
     /** The result of a run over all the values as one group. */
     static String result(int kind, boolean distinct, String... values) {
         AggregateRows x = of(values);
@@ -93,7 +105,8 @@ final class Sample {
 
     static String textOf(AggregateRows x, int group) {
         StringBuilder text = new StringBuilder();
-        for (int i = 0; i < x.length(group); i++) {
+        int length = x.length(group);
+        for (int i = 0; i < length; i++) {
             text.append((char) x.charAt(group, i));
         }
         return text.toString();
