@@ -104,6 +104,21 @@ final class SettingsEdges {
         Check.same("by terms again", 60, x.run(Sample.COUNT, false));
         x.by(2);
         Check.same("as one again", 1, x.run(Sample.COUNT, false));
+        for (int how = 0; how <= 2; how++) {
+            rowsBehindAGroupWithoutRows(how);
+        }
+    }
+
+    /** A group without rows has no key; nothing of that may be left when rows come. */
+    private static void rowsBehindAGroupWithoutRows(int how) {
+        AggregateRows x = new AggregateRows();
+        x.by(2);
+        Check.same("a group without rows", "0 ", groupsOf(x));
+        Sample.row(x, 0, "5", "!");
+        Sample.row(x, 0, "5.0", "!");
+        x.by(how);
+        Check.same("then two rows by " + how, how == 0 ? "1 1 " : "2 ", groupsOf(x));
+        Check.same("the first key", 0, x.key(0));
     }
 
     private static void orderOfGroups() {
