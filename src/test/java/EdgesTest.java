@@ -7,6 +7,6 @@ public final class EdgesTest {
         RunEdges.all();
         ResultsEdges.all();
         HavingEdges.all();
-        Sentences.end();
+        Sentences.endOfAllPromises();
     }
 }

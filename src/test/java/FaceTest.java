@@ -5,7 +5,7 @@ import java.lang.reflect.Modifier;
 import java.util.Set;
 import java.util.TreeSet;
 
-/** The public face of the document, and no member more that can be seen from outside. */
+/** The public face of the document, and no member more that can be seen from outside; no state outside of objects. */
 public final class FaceTest {
     private static final String[] FACE = {
         "public static final int AggregateRows.NONE",
@@ -42,8 +42,33 @@ public final class FaceTest {
             Check.same(inside + " is static", true, Modifier.isStatic(modifiers));
             Check.same(inside + " is for the program alone", false,
                     Modifier.isPublic(modifiers) || Modifier.isProtected(modifiers));
+            namesOfTheirOwn(inside);
+            noStaticState(inside);
         }
+        namesOfTheirOwn(AggregateRows.class);
+        noStaticState(AggregateRows.class);
         Check.end();
+    }
+
+    /** LANGUAGE.md, rule 1: no other method bears the name of one of the face. */
+    private static void namesOfTheirOwn(Class<?> some) {
+        Set<String> names = new TreeSet<>();
+        for (Method method : AggregateRows.class.getMethods()) {
+            names.add(method.getName());
+        }
+        for (Method method : some.getDeclaredMethods()) {
+            boolean ofTheFace = some == AggregateRows.class && Modifier.isPublic(method.getModifiers());
+            Check.same(method + " has a name of its own", true, ofTheFace || !names.contains(method.getName()));
+        }
+    }
+
+    /** LANGUAGE.md, rule 5. */
+    private static void noStaticState(Class<?> some) {
+        for (Field field : some.getDeclaredFields()) {
+            int modifiers = field.getModifiers();
+            Check.same(field + " is no static state", true,
+                    !Modifier.isStatic(modifiers) || Modifier.isFinal(modifiers));
+        }
     }
 
     private static Set<String> visible() {

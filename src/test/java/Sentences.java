@@ -1,7 +1,8 @@
-/** Runs the tests of single sentences of the document, each for the promise that it belongs to. */
+/** Runs the tests of single sentences of the document, each for the promise or the section that it belongs to. */
 final class Sentences {
     private static final int PROMISES = 18;
     private static final int[] TESTED = new int[PROMISES + 1];
+    private static int testedInAll = 0;
 
     private Sentences() {
     }
@@ -9,7 +10,13 @@ final class Sentences {
     /** A test of its own for a sentence; what is wrong in it is printed with the sentence. */
     static void holds(int promise, String sentence, Runnable test) {
         TESTED[promise]++;
-        Check.about("promise " + promise + ", \"" + sentence + "\": ");
+        holds("promise " + promise, sentence, test);
+    }
+
+    /** The same for a sentence that belongs to no promise alone. */
+    static void holds(String section, String sentence, Runnable test) {
+        testedInAll++;
+        Check.about(section + ", \"" + sentence + "\": ");
         try {
             test.run();
         } catch (RuntimeException e) {
@@ -18,14 +25,19 @@ final class Sentences {
         Check.about("");
     }
 
-    /** Every promise is to have a sentence that was tested. */
     static void end() {
-        StringBuilder counts = new StringBuilder("sentences tested, by promises:");
+        System.out.println("sentences tested: " + testedInAll);
+        Check.end();
+    }
+
+    /** Every promise is to have a sentence that was tested. */
+    static void endOfAllPromises() {
+        StringBuilder counts = new StringBuilder("by promises:");
         for (int promise = 1; promise <= PROMISES; promise++) {
             counts.append(' ').append(promise).append(':').append(TESTED[promise]);
             Check.same("promise " + promise + " has tests", true, TESTED[promise] > 0);
         }
         System.out.println(counts);
-        Check.end();
+        end();
     }
 }
