@@ -1,4 +1,4 @@
-/** The document read once more from its first line: a test for each sentence that no other test names. */
+/** The document read once more from its first line: the sentences, or sides of them, that no other test names. */
 public final class ReadingTest {
     private static final int KINDS = 8;
     private static final int TYPES = 3;
